@@ -18,7 +18,7 @@ public final class PromiseTests {
         promise = 6; pass(); passLosesLines(); passThrows();
         promise = 7; setLimit();
         promise = 8; power();
-        promise = 9; moveStick();
+        promise = 9; moveStick(); moveStickOutdated();
         promise = 10; appendText();
         promise = 11; clearText();
         promise = 12; errorPosition();
@@ -500,8 +500,25 @@ public final class PromiseTests {
         due("outdated lines are not lost", x.count(6), 0);
         due("in already", x.moveStick(true), 0);
         x.moveStick(false);
-        due("equal stamps stay", x.moveStick(true), 0);
-        due("used", x.used(), 1);
+        x.moveStick(true);
+        due("the line with the newer stamp stays", x.used(), 1);
+    }
+
+    private static void moveStickOutdated() {
+        GatheringCache x = cache();
+        x.write(0, 1);
+        x.destageAll();
+        x.write(16, 2);
+        x.power(false);
+        x.moveStick(false);
+        x.power(true);
+        x.write(16, 3);
+        x.power(false);
+        due("out already", x.moveStick(false), 0);
+        due("no line becomes empty out there", x.used(), 2);
+        due("in", x.moveStick(true), 1);
+        dueLine(x, 0, 0, 0, 1, 1, 1, 0);
+        dueEmpty(x, 0, 1);
     }
 
     // ---- promises 10 and 11
@@ -592,6 +609,12 @@ public final class PromiseTests {
         dueError("t1;t0", 4);
         dueError("p1", 1);
         dueError("m;r", 3);
+        GatheringCache x = cache();
+        type(x, "r12,");
+        type(x, "r");
+        due("a longer text was there before", x.errorPosition(), 1);
+        type(x, "r1");
+        due("its rest is not read", x.errorPosition(), -1);
         dueError("p;".repeat(39) + "r1", -1);
         dueError("p;".repeat(40), 80);
         dueError("p;".repeat(39) + "w1", 80);
@@ -885,8 +908,18 @@ public final class PromiseTests {
         x.power(false);
         x.moveStick(false);
         due("one is out", x.missing(), 1);
+        x.power(true);
+        x.power(false);
+        due("it is still missing", x.missing(), 1);
         x.moveStick(true);
         due("none again", x.missing(), 0);
+
+        x = cache();
+        x.write(0, 1);
+        x.write(62, 1);
+        x.power(false);
+        x.moveStick(false);
+        due("the first block is one of them", x.missing(), 2);
     }
 
     // ---- promises 25 to 27
