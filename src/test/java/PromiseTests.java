@@ -1,129 +1,38 @@
-import java.util.function.Supplier;
-
 /** For each promise of the document: ordinary inputs, the edges that it names, and wrong inputs. */
-public final class PromiseTests {
-    private static final Class<?> INDEX = IndexOutOfBoundsException.class;
-    private static final Class<?> ARGUMENT = IllegalArgumentException.class;
-    private static final Class<?> STATE = IllegalStateException.class;
-
-    private static int wrong = 0;
-    private static int promise = 0;
-
+public final class PromiseTests extends Checks {
     public static void main(String[] args) {
-        promise = 1; newObject();
-        promise = 2; writeGathered(); writeTakesLines(); writeDestagesFullest(); writeThrough(); writeThrows();
-        promise = 3; read(); readThrows();
-        promise = 4; destage(); destageThrows();
-        promise = 5; destageAll();
-        promise = 6; pass(); passLosesLines(); passThrows();
-        promise = 7; setLimit();
-        promise = 8; power();
-        promise = 9; moveStick(); moveStickOutdated();
-        promise = 10; appendText();
-        promise = 11; clearText();
-        promise = 12; errorPosition();
-        promise = 13; runText(); runTextEndsEarly(); runTextThrows();
-        promise = 14; undo(); undoOfEveryCall(); undoKeepsText();
-        promise = 15; isOn();
-        promise = 16; isIn();
-        promise = 17; charge();
-        promise = 18; line();
-        promise = 19; dirtyOf();
-        promise = 20; dirty();
-        promise = 21; used();
-        promise = 22; onDisk();
-        promise = 23; isFound();
-        promise = 24; missing();
-        promise = 25; ifWritten();
-        promise = 26; ifDestaged();
-        promise = 27; ticksToLoss();
-        promise = 28; count();
-        promise = 29; blocksPerStripe();
-        promise = 30; savedStates();
-        promise = 31; textLength();
-        System.out.println(wrong == 0 ? "all promises are kept" : wrong + " answers are not as due");
-        if (wrong != 0) {
-            System.exit(1);
-        }
-    }
-
-    // ---- the harness
-
-    private static void due(String what, long got, long want) {
-        if (got != want) {
-            wrong++;
-            System.out.println("promise " + promise + ": " + what + " answered " + got + ", due is " + want);
-        }
-    }
-
-    private static void due(String what, boolean got, boolean want) {
-        due(what, got ? 1 : 0, want ? 1 : 0);
-    }
-
-    private static void dueThrow(String what, Supplier<Object> call, Class<?> want) {
-        String got;
-        try {
-            got = "" + call.get();
-        } catch (RuntimeException e) {
-            if (e.getClass() == want) {
-                return;
-            }
-            got = e.toString();
-        }
-        wrong++;
-        System.out.println("promise " + promise + ": " + what + " answered " + got + ", due is " + want);
-    }
-
-    private static GatheringCache cache() {
-        return new GatheringCache();
-    }
-
-    private static void type(GatheringCache x, String text) {
-        x.clearText();
-        for (int i = 0; i < text.length(); i++) {
-            x.appendText(text.charAt(i));
-        }
-    }
-
-    /** All that queries tell, in one text, but for the text buffer and the saved states. */
-    private static String state(GatheringCache x) {
-        StringBuilder s = new StringBuilder();
-        s.append(x.isOn()).append(x.isIn()).append(x.charge()).append(':');
-        for (int set = 0; set < 4; set++) {
-            for (int line = 0; line < 3; line++) {
-                for (int part = 0; part < 5; part++) {
-                    s.append(x.line(set, line, part)).append(',');
-                }
-            }
-        }
-        for (int block = 0; block < 64; block++) {
-            s.append(x.onDisk(block)).append(x.isFound(block)).append(x.ifWritten(block)).append(';');
-        }
-        for (int what = 0; what < 8; what++) {
-            s.append(x.count(what)).append(' ');
-        }
-        s.append(x.blocksPerStripe()).append(' ').append(x.ticksToLoss());
-        return s.toString();
-    }
-
-    private static void dueLine(GatheringCache x, int set, int line, int block, int value, int stamp,
-            int use, int dirty) {
-        String name = "line(" + set + ", " + line + ", ";
-        due(name + "0)", x.line(set, line, 0), block);
-        due(name + "1)", x.line(set, line, 1), value);
-        due(name + "2)", x.line(set, line, 2), stamp);
-        due(name + "3)", x.line(set, line, 3), use);
-        due(name + "4)", x.line(set, line, 4), dirty);
-    }
-
-    private static void dueEmpty(GatheringCache x, int set, int line) {
-        dueLine(x, set, line, -1, -1, -1, -1, -1);
-    }
-
-    private static void dueCounts(GatheringCache x, int... want) {
-        for (int what = 0; what < want.length; what++) {
-            due("count(" + what + ")", x.count(what), want[what]);
-        }
+        testing("promise 1"); newObject();
+        testing("promise 2"); writeGathered(); writeTakesLines(); writeDestagesFullest(); writeThrough(); writeThrows();
+        testing("promise 3"); read(); readThrows();
+        testing("promise 4"); destage(); destageThrows();
+        testing("promise 5"); destageAll();
+        testing("promise 6"); pass(); passLosesLines(); passThrows();
+        testing("promise 7"); setLimit();
+        testing("promise 8"); power();
+        testing("promise 9"); moveStick(); moveStickOutdated();
+        testing("promise 10"); appendText();
+        testing("promise 11"); clearText();
+        testing("promise 12"); errorPosition();
+        testing("promise 13"); runText(); runTextEndsEarly(); runTextThrows();
+        testing("promise 14"); undo(); undoOfEveryCall(); undoKeepsText();
+        testing("promise 15"); isOn();
+        testing("promise 16"); isIn();
+        testing("promise 17"); charge();
+        testing("promise 18"); line();
+        testing("promise 19"); dirtyOf();
+        testing("promise 20"); dirty();
+        testing("promise 21"); used();
+        testing("promise 22"); onDisk();
+        testing("promise 23"); isFound();
+        testing("promise 24"); missing();
+        testing("promise 25"); ifWritten();
+        testing("promise 26"); ifDestaged();
+        testing("promise 27"); ticksToLoss();
+        testing("promise 28"); count();
+        testing("promise 29"); blocksPerStripe();
+        testing("promise 30"); savedStates();
+        testing("promise 31"); textLength();
+        end("all promises are kept");
     }
 
     // ---- promise 1
@@ -552,14 +461,6 @@ public final class PromiseTests {
     }
 
     // ---- promise 12
-
-    private static void dueError(String text, int want) {
-        GatheringCache x = cache();
-        type(x, text);
-        due("errorPosition of \"" + text + "\"", x.errorPosition(), want);
-        due("errorPosition again", x.errorPosition(), want);
-        due("the text stays", x.textLength(), text.length());
-    }
 
     private static void errorPosition() {
         for (String valid : new String[] {"p", "m", "w0,0", "w63,999", "r0", "r63", "d0", "d15", "t1",
