@@ -575,7 +575,10 @@ public final class GatheringCache {
             System.arraycopy(other.values, 0, values, 0, LINES);
             System.arraycopy(other.stamps, 0, stamps, 0, LINES);
             System.arraycopy(other.uses, 0, uses, 0, LINES);
-            System.arraycopy(other.dirty, 0, dirty, 0, LINES);
+            // A loop, as the language lets arraycopy take arrays of numbers alone.
+            for (int line = 0; line < LINES; line++) {
+                dirty[line] = other.dirty[line];
+            }
             lastUse = other.lastUse;
             limit = other.limit;
             charge = other.charge;
